@@ -41,7 +41,7 @@ public final class DoorstepRides {
     private final Search search = new Search();
     private boolean isWinter = false;
     private int today = 0;
-    private int minute = 0;
+    private int minuteNow = 0;
 
     /** Begins without riders and vehicles: the day 0, the minute 0, summer. */
     public DoorstepRides() {
@@ -129,7 +129,7 @@ public final class DoorstepRides {
             carrier.takeOutStopsOf(told);
         }
         told.state = CANCELLED;
-        told.cancelledLate = told.promised - minute < NOTICE;
+        told.cancelledLate = told.promised - minuteNow < NOTICE;
         return told.isNoShow();
     }
 
@@ -145,17 +145,17 @@ public final class DoorstepRides {
     /** Lets minutes pass, and answers the minute then. */
     public int pass(int minutes) throws IllegalArgumentException, IllegalStateException {
         demand(minutes, 1, 120);
-        demandState(minute + minutes <= DAY_END);
+        demandState(minuteNow + minutes <= DAY_END);
         for (int i = 0; i < minutes; i++) {
             passMinute();
         }
-        return minute;
+        return minuteNow;
     }
 
     /** Ends the day, and answers how many requests are FAILED by that, at its end. */
     public int end() throws IllegalStateException {
         demandState(today < LAST_DAY);
-        int left = DAY_END - minute;
+        int left = DAY_END - minuteNow;
         for (int i = 0; i < left; i++) {
             passMinute();
         }
@@ -164,7 +164,7 @@ public final class DoorstepRides {
             vehicles.get(i).beginDay();
         }
         today++;
-        minute = 0;
+        minuteNow = 0;
         return failed;
     }
 
@@ -172,7 +172,7 @@ public final class DoorstepRides {
     public int traffic(int vehicle, int minutes) throws IndexOutOfBoundsException, IllegalArgumentException {
         Vehicle held = vehicleNumbered(vehicle);
         demand(minutes, 1, 60);
-        return held.holdUp(minutes, minute);
+        return held.holdUp(minutes, minuteNow);
     }
 
     /** Mends a route, and answers how many requests were taken out and put into a route. */
@@ -182,7 +182,7 @@ public final class DoorstepRides {
         int moved = 0;
         for (int i = 0; i < toMend.size(); i++) {
             Request looked = toMend.get(i);
-            if (mended.wouldFail(looked, minute) && move(mended, looked)) {
+            if (mended.wouldFail(looked, minuteNow) && move(mended, looked)) {
                 moved++;
             }
         }
@@ -198,7 +198,7 @@ public final class DoorstepRides {
 
     /** Tells the minute. */
     public int now() {
-        return minute;
+        return minuteNow;
     }
 
     /** Tells whether a ride is owed to a rider, as things are. */
@@ -233,7 +233,7 @@ public final class DoorstepRides {
     public int vehicleOf(int vehicle, int what) throws IndexOutOfBoundsException, IllegalArgumentException {
         Vehicle told = vehicleNumbered(vehicle);
         demand(what, 0, 8);
-        return told.tell(what, minute);
+        return told.tell(what, minuteNow);
     }
 
     /** Tells of an open stop. */
@@ -251,7 +251,7 @@ public final class DoorstepRides {
         if (what == 1) {
             return told.isDrop ? 1 : 0;
         }
-        asked.layPlan(minute);
+        asked.layPlan(minuteNow);
         return what == 2 ? told.begins : told.ends;
     }
 
@@ -271,7 +271,7 @@ public final class DoorstepRides {
         if (asked.stops.size() > MOST_STOPS_TO_ARRANGE) {
             return NONE;
         }
-        return leastArranged(asked, asked.firstOpen(), minute, NONE);
+        return leastArranged(asked, asked.firstOpen(), minuteNow, NONE);
     }
 
     /** Tells which patterns there are: 1 for that of no, and 2 for that of late rides, together. */
@@ -407,8 +407,8 @@ public final class DoorstepRides {
         for (int tries = 0; tries <= 2 * TRIES_EACH_WAY; tries++) {
             int away = TRY_MINUTES * ((tries + 1) / 2);
             asked.promised = tries % 2 == 1 ? wanted + away : wanted - away;
-            boolean isOfTheDay = asked.promised > minute && asked.promised <= DAY_END;
-            if (isOfTheDay && search.putBest(vehicles, pick, drop, minute)) {
+            boolean isOfTheDay = asked.promised > minuteNow && asked.promised <= DAY_END;
+            if (isOfTheDay && search.putBest(vehicles, pick, drop, minuteNow)) {
                 return true;
             }
         }
@@ -423,7 +423,7 @@ public final class DoorstepRides {
         }
         Stop drop = from.stops.remove(dropAt);
         Stop pick = from.stops.remove(pickAt);
-        if (search.putBest(vehicles, pick, drop, minute)) {
+        if (search.putBest(vehicles, pick, drop, minuteNow)) {
             return true;
         }
         from.putIn(pick, pickAt, drop, dropAt);
@@ -452,10 +452,10 @@ public final class DoorstepRides {
     // ---- minutes and days
 
     private void passMinute() {
-        minute++;
+        minuteNow++;
         for (int i = 0; i < vehicles.size(); i++) {
-            vehicles.get(i).finishStop(minute);
-            vehicles.get(i).leaveIfDue(minute);
+            vehicles.get(i).finishStop(minuteNow);
+            vehicles.get(i).leaveIfDue(minuteNow);
         }
     }
 

@@ -17,6 +17,16 @@ final class Checks {
     private Checks() {
     }
 
+    /** A vehicle at the place 0 with such seats and ties, and riders 0 WALKS, 1 WALKER, 2 CHAIR. */
+    static DoorstepRides town(int seats, int ties) {
+        DoorstepRides x = new DoorstepRides();
+        x.vehicle(0, seats, ties, 400);
+        for (int kind = 0; kind <= 2; kind++) {
+            x.rider(kind, 70, 5, false);
+        }
+        return x;
+    }
+
     static void due(String what, long got, long want) {
         if (got == want) {
             held++;

@@ -30,16 +30,6 @@ public final class DayTest {
         Checks.close("DayTest");
     }
 
-    /** A vehicle at the place 0 with 8 seats and 3 ties, and riders 0 WALKS, 1 WALKER, 2 CHAIR. */
-    private static DoorstepRides town() {
-        DoorstepRides x = new DoorstepRides();
-        x.vehicle(0, 8, 3, 400);
-        for (int kind = 0; kind <= 2; kind++) {
-            x.rider(kind, 70, 5, false);
-        }
-        return x;
-    }
-
     private static void dueVehicle(String when, DoorstepRides x, int place, int free, int stops, int left) {
         Checks.due(when + ": place", x.vehicleOf(0, 0), place);
         Checks.due(when + ": free", x.vehicleOf(0, 1), free);
@@ -49,7 +39,7 @@ public final class DayTest {
 
     /** From 0 to 5, to pick up there at 20 and to drop at 7, five steps on. */
     private static void promise10() {
-        DoorstepRides x = town();
+        DoorstepRides x = Checks.town(8, 3);
         x.ask(0, 5, 7, 20);
         Checks.due("9", x.pass(9), 9);
         dueVehicle("at 9", x, 0, 0, 2, 0);
@@ -93,7 +83,7 @@ public final class DayTest {
     private static void promise10Kinds() {
         int[] minutes = {2, 4, 6};
         for (int kind = 0; kind <= 2; kind++) {
-            DoorstepRides x = town();
+            DoorstepRides x = Checks.town(8, 3);
             x.ask(kind, 0, 1, 50);
             x.pass(50 + minutes[kind] - 1);
             Checks.due("not yet aboard", x.requestOf(0, 0), PROMISED);
@@ -109,7 +99,7 @@ public final class DayTest {
     }
 
     private static void promise10WaitsToLeave() {
-        DoorstepRides x = town();
+        DoorstepRides x = Checks.town(8, 3);
         x.ask(0, 0, 1, 20);
         x.ask(0, 1, 2, 60);
         x.pass(26);
@@ -118,7 +108,7 @@ public final class DayTest {
         dueVehicle("at 59", x, 1, 26, 2, 0);
         x.pass(1);
         dueVehicle("at 60", x, 1, 26, 2, 1);
-        DoorstepRides y = town();
+        DoorstepRides y = Checks.town(8, 3);
         y.ask(0, 0, 1, 20);
         y.traffic(0, 30);
         y.pass(29);
@@ -129,7 +119,7 @@ public final class DayTest {
     }
 
     private static void promise10LiftAtPick() {
-        DoorstepRides x = town();
+        DoorstepRides x = Checks.town(8, 3);
         x.ask(2, 0, 1, 20);
         x.ask(0, 0, 1, 20);
         x.lift(0, false);
@@ -140,7 +130,7 @@ public final class DayTest {
         Checks.due("no chair aboard", x.vehicleOf(0, 4), 0);
         Checks.due("who walks needs no lift", x.requestOf(1, 0), ABOARD);
         Checks.due("no no-show", x.count(9), 0);
-        DoorstepRides y = town();
+        DoorstepRides y = Checks.town(8, 3);
         y.ask(2, 0, 1, 20);
         y.absent(0);
         y.lift(0, false);
@@ -150,7 +140,7 @@ public final class DayTest {
 
     /** Dropped by 34, if the lift works. */
     private static void promise10LiftAtDrop() {
-        DoorstepRides x = town();
+        DoorstepRides x = Checks.town(8, 3);
         x.ask(2, 0, 1, 20);
         x.pass(27);
         x.lift(0, false);
@@ -172,7 +162,7 @@ public final class DayTest {
     }
 
     private static void promise10LiftMendedInTime() {
-        DoorstepRides x = town();
+        DoorstepRides x = Checks.town(8, 3);
         x.ask(2, 0, 1, 20);
         x.ask(0, 0, 1, 60);
         x.pass(26);
@@ -183,7 +173,7 @@ public final class DayTest {
         Checks.due("its 30 minutes all the same", x.requestOf(0, 0), ABOARD);
         x.pass(1);
         Checks.due("served at 64", x.requestOf(0, 0), SERVED);
-        DoorstepRides y = town();
+        DoorstepRides y = Checks.town(8, 3);
         y.ask(0, 0, 1, 20);
         y.lift(0, false);
         y.pass(26);
@@ -191,7 +181,7 @@ public final class DayTest {
     }
 
     private static void promise11() {
-        DoorstepRides x = town();
+        DoorstepRides x = Checks.town(8, 3);
         x.ask(0, 0, 1, 20);
         x.ask(2, 0, 35, 540);
         x.pass(30);
@@ -216,7 +206,7 @@ public final class DayTest {
     }
 
     private static void promise11Wrong() {
-        DoorstepRides x = town();
+        DoorstepRides x = Checks.town(8, 3);
         for (int i = 0; i < 400; i++) {
             x.end();
         }
@@ -227,7 +217,7 @@ public final class DayTest {
     }
 
     private static void promise11PassesTheRest() {
-        DoorstepRides x = town();
+        DoorstepRides x = Checks.town(8, 3);
         x.ask(2, 0, 1, 20);
         x.lift(0, false);
         Checks.due("failed by the lift, not by the end", x.end(), 0);
@@ -262,13 +252,13 @@ public final class DayTest {
     }
 
     private static void promise11EndsAt600() {
-        DoorstepRides x = town();
+        DoorstepRides x = Checks.town(8, 3);
         x.ask(0, 0, 1, 592);
         holdUpBy(x, 594);
         Checks.due("drop ends at 600", x.stopOf(0, 1, 3), 600);
         Checks.due("none is left", x.end(), 0);
         Checks.due("served", x.requestOf(0, 0), SERVED);
-        DoorstepRides y = town();
+        DoorstepRides y = Checks.town(8, 3);
         y.ask(0, 0, 1, 592);
         holdUpBy(y, 595);
         Checks.due("drop ends at 601", y.stopOf(0, 1, 3), 601);
@@ -285,7 +275,7 @@ public final class DayTest {
     }
 
     private static void promise12() {
-        DoorstepRides x = town();
+        DoorstepRides x = Checks.town(8, 3);
         Checks.due("from now on", x.traffic(0, 7), 7);
         Checks.due("from when it is free", x.traffic(0, 5), 12);
         x.pass(12);
@@ -300,7 +290,7 @@ public final class DayTest {
     }
 
     private static void promise12Left() {
-        DoorstepRides x = town();
+        DoorstepRides x = Checks.town(8, 3);
         x.ask(0, 5, 4, 100);
         x.pass(95);
         Checks.due("on its way", x.traffic(0, 3), 105);
@@ -320,7 +310,7 @@ public final class DayTest {
         Checks.due("not right", x.vehicleOf(0, 8), 0);
         x.pass(17);
         Checks.due("long", x.requestOf(0, 8), 1);
-        DoorstepRides y = town();
+        DoorstepRides y = Checks.town(8, 3);
         y.ask(0, 5, 4, 100);
         y.pass(95);
         y.traffic(0, 21);
@@ -333,7 +323,7 @@ public final class DayTest {
     }
 
     private static void promise12Wrong() {
-        DoorstepRides x = town();
+        DoorstepRides x = Checks.town(8, 3);
         Checks.refused("-1", Checks.INDEX, () -> x.traffic(-1, 5));
         Checks.refused("1", Checks.INDEX, () -> x.traffic(1, 5));
         Checks.refused("both wrong", Checks.INDEX, () -> x.traffic(1, 0));
@@ -345,7 +335,7 @@ public final class DayTest {
 
     /** Two vehicles at the place 0: a request at 100, and the first vehicle is free too late, or just in time. */
     private static void promise13ToAnother() {
-        DoorstepRides x = town();
+        DoorstepRides x = Checks.town(8, 3);
         x.vehicle(0, 8, 3, 400);
         x.ask(0, 0, 5, 100);
         x.traffic(0, 60);
@@ -359,7 +349,7 @@ public final class DayTest {
         Checks.due("no stops", x.vehicleOf(0, 2), 0);
         Checks.due("two stops", x.vehicleOf(1, 2), 2);
         Checks.due("nothing more", x.mend(0) + x.mend(1), 0);
-        DoorstepRides y = town();
+        DoorstepRides y = Checks.town(8, 3);
         y.vehicle(0, 8, 3, 60);
         y.ask(2, 0, 5, 100);
         for (int i = 0; i < 3; i++) {
@@ -390,7 +380,7 @@ public final class DayTest {
 
     /** Without the chair ahead the first rider would be aboard too long, waiting for the second. */
     private static void promise13DropTooLate() {
-        DoorstepRides x = town();
+        DoorstepRides x = Checks.town(8, 3);
         x.ask(0, 0, 1, 100);
         x.ask(2, 5, 0, 93);
         x.ask(0, 0, 1, 125);
@@ -410,7 +400,7 @@ public final class DayTest {
     }
 
     private static void promise13ComesBack() {
-        DoorstepRides x = town();
+        DoorstepRides x = Checks.town(8, 3);
         x.ask(0, 0, 5, 100);
         x.ask(1, 0, 5, 100);
         x.ask(0, 1, 4, 104);
@@ -433,7 +423,7 @@ public final class DayTest {
     }
 
     private static void promise13NotWhatItLeftFor() {
-        DoorstepRides x = town();
+        DoorstepRides x = Checks.town(8, 3);
         x.vehicle(0, 8, 3, 400);
         x.ask(0, 0, 5, 100);
         Checks.due("nothing yet", x.mend(0), 0);
@@ -443,7 +433,7 @@ public final class DayTest {
         Checks.due("but left for", x.mend(0), 0);
         x.ask(0, 0, 1, 101);
         Checks.due("the other one", x.vehicleOf(1, 2), 2);
-        DoorstepRides y = town();
+        DoorstepRides y = Checks.town(8, 3);
         y.vehicle(0, 8, 3, 400);
         y.ask(0, 0, 1, 10);
         y.ask(0, 1, 2, 20);

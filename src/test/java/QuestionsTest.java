@@ -34,16 +34,6 @@ public final class QuestionsTest {
         Checks.close("QuestionsTest");
     }
 
-    /** A vehicle at the place 0 with 8 seats and 3 ties, and riders 0 WALKS, 1 WALKER, 2 CHAIR. */
-    private static DoorstepRides town() {
-        DoorstepRides x = new DoorstepRides();
-        x.vehicle(0, 8, 3, 400);
-        for (int kind = 0; kind <= 2; kind++) {
-            x.rider(kind, 70, 5, false);
-        }
-        return x;
-    }
-
     private static void dueRequest(DoorstepRides x, int request, int... due) {
         for (int what = 0; what < due.length; what++) {
             Checks.due("requestOf " + request + " " + what, x.requestOf(request, what), due[what]);
@@ -92,7 +82,7 @@ public final class QuestionsTest {
     }
 
     private static void promise17() {
-        DoorstepRides x = town();
+        DoorstepRides x = Checks.town(8, 3);
         x.ask(0, 0, 1, 50);
         x.ask(0, 0, 1, 90);
         x.ask(1, 0, 1, 300);
@@ -122,7 +112,7 @@ public final class QuestionsTest {
     }
 
     private static void promise17LastThirtyDays() {
-        DoorstepRides x = town();
+        DoorstepRides x = Checks.town(8, 3);
         x.cancel(x.ask(0, 0, 1, 50));
         x.end();
         x.ask(0, 0, 1, 50);
@@ -140,7 +130,7 @@ public final class QuestionsTest {
     }
 
     private static void promise18() {
-        DoorstepRides x = town();
+        DoorstepRides x = Checks.town(8, 3);
         x.end();
         x.ask(0, 5, 7, 20);
         dueRequest(x, 0, DoorstepRides.PROMISED, 0, 20, 0, NONE, NONE, NONE, 0, 0, 1, 0);
@@ -158,7 +148,7 @@ public final class QuestionsTest {
     }
 
     private static void promise18Wrong() {
-        DoorstepRides x = town();
+        DoorstepRides x = Checks.town(8, 3);
         Checks.refused("none", Checks.INDEX, () -> x.requestOf(0, 0));
         x.ask(0, 5, 7, 20);
         Checks.refused("-1", Checks.INDEX, () -> x.requestOf(-1, 0));
@@ -168,7 +158,7 @@ public final class QuestionsTest {
     }
 
     private static void promise18Denied() {
-        DoorstepRides x = town();
+        DoorstepRides x = Checks.town(8, 3);
         x.lift(0, false);
         x.ask(2, 5, 7, 20);
         dueRequest(x, 0, DoorstepRides.DENIED, DoorstepRides.NO_ROOM, NONE, NONE, NONE, NONE, NONE, 0, 0, 0, 0);
@@ -176,7 +166,7 @@ public final class QuestionsTest {
 
     /** Picked up too late, but missed: late all the same. Then aboard too long. */
     private static void promise18LateAndLong() {
-        DoorstepRides x = town();
+        DoorstepRides x = Checks.town(8, 3);
         x.ask(0, 0, 1, 50);
         x.absent(0);
         x.traffic(0, 60);
@@ -198,7 +188,7 @@ public final class QuestionsTest {
     }
 
     private static void promise19() {
-        DoorstepRides x = town();
+        DoorstepRides x = Checks.town(8, 3);
         Checks.due("never back", x.vehicleOf(0, 7), NONE);
         x.ask(1, 5, 7, 20);
         int[] due = {0, 0, 2, 0, 0, 0, 1, 42, 1};
@@ -244,7 +234,7 @@ public final class QuestionsTest {
     }
 
     private static void promise19Right() {
-        DoorstepRides x = town();
+        DoorstepRides x = Checks.town(8, 3);
         Checks.due("without stops", x.vehicleOf(0, 8), 1);
         x.ask(0, 0, 1, 592);
         Checks.due("back at 600", x.vehicleOf(0, 7), 600);
@@ -257,7 +247,7 @@ public final class QuestionsTest {
         x.traffic(0, 1);
         Checks.due("back at 601", x.vehicleOf(0, 7), 601);
         Checks.due("not right", x.vehicleOf(0, 8), 0);
-        DoorstepRides y = town();
+        DoorstepRides y = Checks.town(8, 3);
         y.ask(0, 0, 1, 50);
         y.pass(50);
         y.traffic(0, 20);
@@ -269,7 +259,7 @@ public final class QuestionsTest {
     }
 
     private static void promise20() {
-        DoorstepRides x = town();
+        DoorstepRides x = Checks.town(8, 3);
         Checks.refused("no vehicle", Checks.INDEX, () -> x.stopOf(1, 0, 0));
         Checks.refused("vehicle -1", Checks.INDEX, () -> x.stopOf(-1, 0, 0));
         Checks.refused("no stop", Checks.INDEX, () -> x.stopOf(0, 0, 0));
@@ -287,7 +277,7 @@ public final class QuestionsTest {
     }
 
     private static void promise20Plan() {
-        DoorstepRides x = town();
+        DoorstepRides x = Checks.town(8, 3);
         x.ask(0, 5, 7, 5);
         Checks.due("the next minute", x.stopOf(0, 0, 2), 11);
         x.cancel(0);
@@ -309,7 +299,7 @@ public final class QuestionsTest {
     }
 
     private static void promise21() {
-        DoorstepRides x = town();
+        DoorstepRides x = Checks.town(8, 3);
         Checks.refused("-1", Checks.INDEX, () -> x.seatsAnew(-1));
         Checks.refused("1", Checks.INDEX, () -> x.seatsAnew(1));
         Checks.due("none", x.seatsAnew(0), 0);
@@ -333,7 +323,7 @@ public final class QuestionsTest {
     }
 
     private static void promise22() {
-        DoorstepRides x = town();
+        DoorstepRides x = Checks.town(8, 3);
         Checks.refused("-1", Checks.INDEX, () -> x.drive(-1));
         Checks.refused("1", Checks.INDEX, () -> x.drive(1));
         Checks.due("at its base", x.drive(0), 0);
@@ -352,7 +342,7 @@ public final class QuestionsTest {
     }
 
     private static void promise23() {
-        DoorstepRides x = town();
+        DoorstepRides x = Checks.town(8, 3);
         Checks.refused("-1", Checks.INDEX, () -> x.leastDrive(-1));
         Checks.refused("1", Checks.INDEX, () -> x.leastDrive(1));
         Checks.due("without stops", x.leastDrive(0), 0);
@@ -367,7 +357,7 @@ public final class QuestionsTest {
 
     /** What is put in one by one may be worse than the best order of all. */
     private static void promise23Six() {
-        DoorstepRides x = town();
+        DoorstepRides x = Checks.town(8, 3);
         x.ask(0, 0, 1, 100);
         x.ask(0, 0, 1, 112);
         x.ask(0, 0, 1, 106);
@@ -381,7 +371,7 @@ public final class QuestionsTest {
         x.pass(x.stopOf(0, 0, 3));
         Checks.due("one is aboard: seven stops", x.vehicleOf(0, 2), 7);
         Checks.due("seven stops", x.leastDrive(0), NONE);
-        DoorstepRides y = town();
+        DoorstepRides y = Checks.town(8, 3);
         y.ask(0, 5, 0, 110);
         y.ask(0, 3, 2, 108);
         y.ask(0, 5, 3, 102);
@@ -391,7 +381,7 @@ public final class QuestionsTest {
     }
 
     private static void promise23LeftFirst() {
-        DoorstepRides x = town();
+        DoorstepRides x = Checks.town(8, 3);
         x.ask(0, 2, 3, 30);
         x.ask(0, 1, 3, 40);
         x.traffic(0, 28);
@@ -405,7 +395,7 @@ public final class QuestionsTest {
     }
 
     private static void promise24No() {
-        DoorstepRides x = town();
+        DoorstepRides x = Checks.town(8, 3);
         x.lift(0, false);
         x.ask(2, 0, 1, 50);
         Checks.due("one is none", x.patterns(), 0);
@@ -414,7 +404,7 @@ public final class QuestionsTest {
     }
 
     private static void promise24NoAmongMany() {
-        DoorstepRides x = town();
+        DoorstepRides x = Checks.town(8, 3);
         x.lift(0, false);
         x.ask(2, 0, 1, 50);
         x.ask(2, 0, 1, 50);
@@ -432,7 +422,7 @@ public final class QuestionsTest {
         }
         x.ask(2, 0, 1, 50);
         Checks.due("3 of 43", x.patterns(), 1);
-        DoorstepRides y = town();
+        DoorstepRides y = Checks.town(8, 3);
         for (int i = 0; i < 3; i++) {
             y.cancel(y.ask(0, 0, 1, 50));
         }
@@ -447,7 +437,7 @@ public final class QuestionsTest {
 
     /** Ten are served, the first of them late, then an eleventh. */
     private static void promise24Late() {
-        DoorstepRides x = town();
+        DoorstepRides x = Checks.town(8, 3);
         x.ask(0, 0, 1, 10);
         x.traffic(0, 31);
         x.pass(38);
@@ -466,7 +456,7 @@ public final class QuestionsTest {
         x.pass(20);
         Checks.due("long", x.requestOf(10, 8), 1);
         Checks.due("2 of 11", x.patterns(), 2);
-        DoorstepRides y = town();
+        DoorstepRides y = Checks.town(8, 3);
         y.ask(0, 0, 1, 10);
         y.absent(0);
         y.traffic(0, 31);
@@ -477,7 +467,7 @@ public final class QuestionsTest {
     }
 
     private static int bothOnce() {
-        DoorstepRides x = town();
+        DoorstepRides x = Checks.town(8, 3);
         x.ask(0, 0, 1, 10);
         x.traffic(0, 31);
         x.pass(33);
@@ -495,7 +485,7 @@ public final class QuestionsTest {
     }
 
     private static void promise24LastTwentyDays() {
-        DoorstepRides x = town();
+        DoorstepRides x = Checks.town(8, 3);
         x.ask(0, 0, 1, 10);
         x.traffic(0, 31);
         x.pass(38);
@@ -513,7 +503,7 @@ public final class QuestionsTest {
     }
 
     private static void promise25() {
-        DoorstepRides x = town();
+        DoorstepRides x = Checks.town(8, 3);
         x.ask(0, 0, 1, 10);
         x.ask(0, 0, 1, 40);
         x.ask(0, 0, 1, 80);
@@ -543,7 +533,7 @@ public final class QuestionsTest {
     }
 
     private static void promise26() {
-        DoorstepRides x = town();
+        DoorstepRides x = Checks.town(8, 3);
         x.ask(0, 0, 35, 10);
         Checks.due("not yet", x.money(), 0);
         x.pass(33);
@@ -575,7 +565,7 @@ public final class QuestionsTest {
     }
 
     private static void questionsChangeNothing() {
-        DoorstepRides x = town();
+        DoorstepRides x = Checks.town(8, 3);
         x.ask(0, 0, 5, 100);
         x.ask(1, 1, 4, 100);
         x.ask(0, 4, 3, 110);

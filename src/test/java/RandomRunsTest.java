@@ -13,17 +13,26 @@ public final class RandomRunsTest {
     private final PlainModel model = new PlainModel();
     private final StringBuilder story = new StringBuilder();
     private final int spread;
+    private final int window;
+    private final boolean hasBuses;
+    private final boolean hasManyChairs;
     private boolean same = true;
+    private int moved;
+    private int patternsSeen;
+    private int fullRoutes;
 
     private RandomRunsTest(long seed) {
         random = new Random(seed);
-        spread = 1 + random.nextInt(6);
+        spread = 2 + random.nextInt(5);
+        window = random.nextInt(3) == 0 ? 600 : 60;
+        hasBuses = random.nextInt(3) == 0;
+        hasManyChairs = random.nextBoolean();
     }
 
     public static void main(String[] args) {
         long first = args.length > 0 ? Long.parseLong(args[0]) : 1;
         int runs = args.length > 1 ? Integer.parseInt(args[1]) : RUNS;
-        int[] met = new int[12];
+        int[] met = new int[16];
         for (long seed = first; seed < first + runs; seed++) {
             RandomRunsTest run = new RandomRunsTest(seed);
             run.go();
@@ -32,18 +41,25 @@ public final class RandomRunsTest {
                 System.out.println(run.story);
                 break;
             }
-            for (int what = 0; what < 10; what++) {
-                met[what] += run.program.count(what);
-            }
-            met[10] += run.moved;
-            met[11] += run.patternsSeen;
+            run.addTo(met);
         }
         System.out.println("met: " + java.util.Arrays.toString(met));
         Checks.close("RandomRunsTest");
     }
 
-    private int moved;
-    private int patternsSeen;
+    /** What the runs met, so that one sees whether they are worth their while. */
+    private void addTo(int[] met) {
+        for (int what = 0; what < 10; what++) {
+            met[what] += program.count(what);
+        }
+        for (int i = 0; i < model.requests.size(); i++) {
+            int reason = program.requestOf(i, 1);
+            met[9 + reason] += reason > 0 ? 1 : 0;
+        }
+        met[13] += moved;
+        met[14] += patternsSeen;
+        met[15] += fullRoutes;
+    }
 
     private void go() {
         int vehicles = 1 + random.nextInt(3);
@@ -100,7 +116,7 @@ public final class RandomRunsTest {
     }
 
     private void tellRider() {
-        int kind = about(0, 2), weight = about(30, 300), walk = about(0, 10);
+        int kind = hasManyChairs && random.nextBoolean() ? 2 : about(0, 2), weight = about(30, 300), walk = about(0, 10);
         boolean helper = random.nextInt(3) == 0;
         same("rider " + kind + " " + weight + " " + walk + " " + helper,
                 () -> program.rider(kind, weight, walk, helper), () -> model.rider(kind, weight, walk, helper));
@@ -120,6 +136,9 @@ public final class RandomRunsTest {
             int minutes = random.nextInt(3) == 0 ? about(1, 60) : about(1, 15);
             same("traffic " + vehicle + " " + minutes, () -> program.traffic(vehicle, minutes),
                     () -> model.traffic(vehicle, minutes));
+            if (random.nextInt(3) > 0) {
+                callMend(vehicle);
+            }
         } else if (dice < 73) {
             callMend(vehicle);
         } else if (dice < 81) {
@@ -140,7 +159,7 @@ public final class RandomRunsTest {
         int rider = about(0, model.riders.size() - 1);
         int from = aPlace(), to = aPlace();
         int minute = random.nextInt(4) == 0 ? about(0, 600)
-                : Math.max(-1, Math.min(601, model.now + random.nextInt(60) - 10));
+                : Math.max(-1, Math.min(601, model.now + random.nextInt(window) - 10));
         same("ask " + rider + " " + from + " " + to + " " + minute, () -> program.ask(rider, from, to, minute),
                 () -> model.ask(rider, from, to, minute));
     }
@@ -156,7 +175,7 @@ public final class RandomRunsTest {
     private void callSeldom(int dice) {
         int at = aPlace();
         boolean is = random.nextInt(3) > 0;
-        if (dice < 92) {
+        if (dice < 92 && hasBuses) {
             same("busStop " + at + " " + is, () -> program.busStop(at, is), () -> model.busStop(at, is));
         } else if (dice < 93) {
             same("winter " + is, () -> bit(program.winter(is)), () -> bit(model.winter(is)));
@@ -222,6 +241,7 @@ public final class RandomRunsTest {
         if (random.nextInt(10) == 0) {
             same("?leastDrive " + number, () -> program.leastDrive(number), () -> model.leastDrive(number));
         }
+        fullRoutes += Checks.outcome(() -> program.vehicleOf(number, 2)) == 16 ? 1 : 0;
         boolean is = number >= 0 && number < model.vehicles.size();
         int stops = is ? model.vehicles.get(number).route.size() : 0;
         for (int place = -1; place <= stops; place++) {

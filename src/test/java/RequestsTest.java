@@ -32,16 +32,6 @@ public final class RequestsTest {
         Checks.close("RequestsTest");
     }
 
-    /** A vehicle at the place 0 with such seats and ties, and riders 0 WALKS, 1 WALKER, 2 CHAIR. */
-    private static DoorstepRides town(int seats, int ties) {
-        DoorstepRides x = new DoorstepRides();
-        x.vehicle(0, seats, ties, 400);
-        for (int kind = 0; kind <= 2; kind++) {
-            x.rider(kind, 70, 5, false);
-        }
-        return x;
-    }
-
     private static void dueRoute(DoorstepRides x, int vehicle, int... requests) {
         Checks.due("stops", x.vehicleOf(vehicle, 2), requests.length);
         for (int i = 0; i < requests.length && i < x.vehicleOf(vehicle, 2); i++) {
@@ -50,7 +40,7 @@ public final class RequestsTest {
     }
 
     private static void promise7Wrong() {
-        DoorstepRides x = town(8, 3);
+        DoorstepRides x = Checks.town(8, 3);
         Checks.refused("rider -1", Checks.INDEX, () -> x.ask(-1, 0, 1, 5));
         Checks.refused("rider 3", Checks.INDEX, () -> x.ask(3, 0, 1, 5));
         Checks.refused("rider 3, all else wrong too", Checks.INDEX, () -> x.ask(3, 36, 36, 601));
@@ -65,7 +55,7 @@ public final class RequestsTest {
     }
 
     private static void promise7Full() {
-        DoorstepRides x = town(8, 3);
+        DoorstepRides x = Checks.town(8, 3);
         for (int i = 0; i < 60; i++) {
             Checks.due("number", x.ask(0, 0, 1, 300), i);
             if (i % 3 == 0) {
@@ -80,7 +70,7 @@ public final class RequestsTest {
 
     /** One seat: the first from 100 to 114, and back at 124; the second begins at 124; the third at 80. */
     private static void promise7Tries() {
-        DoorstepRides x = town(1, 0);
+        DoorstepRides x = Checks.town(1, 0);
         Checks.due("m", x.requestOf(x.ask(0, 0, 5, 100), 2), 100);
         Checks.due("m and 10", x.requestOf(x.ask(0, 0, 5, 100), 2), 110);
         Checks.due("m less 20, for m less 10 and m and 20 are not possible", x.requestOf(x.ask(0, 0, 5, 100), 2), 80);
@@ -95,7 +85,7 @@ public final class RequestsTest {
     }
 
     private static void promise7TriesOfTheDay() {
-        DoorstepRides x = town(1, 0);
+        DoorstepRides x = Checks.town(1, 0);
         Checks.due("0 is not behind 0", x.requestOf(x.ask(0, 0, 1, 0), 2), 10);
         x.cancel(0);
         x.pass(70);
@@ -110,20 +100,20 @@ public final class RequestsTest {
 
     /** The place 35 is 20 minutes from 0. */
     private static void promise7PickInTime() {
-        DoorstepRides x = town(1, 0);
+        DoorstepRides x = Checks.town(1, 0);
         Checks.due("20 minutes behind", x.requestOf(x.ask(0, 35, 34, 1), 2), 1);
         Checks.due("leaves in the next minute", x.stopOf(0, 0, 2), 21);
-        DoorstepRides y = town(1, 0);
+        DoorstepRides y = Checks.town(1, 0);
         y.traffic(0, 2);
         Checks.due("21 minutes behind", y.requestOf(y.ask(0, 35, 34, 1), 2), 11);
-        DoorstepRides z = town(1, 0);
+        DoorstepRides z = Checks.town(1, 0);
         z.traffic(0, 1);
         Checks.due("free at 1, the next minute", z.requestOf(z.ask(0, 35, 34, 1), 2), 1);
     }
 
     /** WALKS from 0 to 1 and back takes 8 minutes, a CHAIR 16. */
     private static void promise7BackInTime() {
-        DoorstepRides x = town(2, 1);
+        DoorstepRides x = Checks.town(2, 1);
         Checks.due("walks, asked for 592", x.requestOf(x.ask(0, 0, 1, 592), 2), 592);
         Checks.due("back at 600", x.vehicleOf(0, 7), 600);
         x.cancel(0);
@@ -137,7 +127,7 @@ public final class RequestsTest {
     }
 
     private static void promise7LeastGrowth() {
-        DoorstepRides x = town(4, 0);
+        DoorstepRides x = Checks.town(4, 0);
         x.vehicle(35, 4, 0, 400);
         x.vehicle(35, 4, 0, 400);
         Checks.due("the nearer vehicle", x.requestOf(x.ask(0, 34, 35, 100), 3), 1);
@@ -145,40 +135,40 @@ public final class RequestsTest {
         Checks.due("of as good ones the lowest", x.requestOf(x.ask(0, 33, 35, 300), 3), 1);
         Checks.due("on the way of the first vehicle", x.requestOf(x.ask(0, 1, 0, 100), 3), 0);
         Checks.due("not the lowest, if its drive grows more", x.requestOf(x.ask(0, 29, 35, 500), 3), 1);
-        DoorstepRides y = town(1, 0);
+        DoorstepRides y = Checks.town(1, 0);
         y.vehicle(0, 1, 0, 400);
         y.ask(0, 0, 5, 100);
         Checks.due("the first has no room then", y.requestOf(y.ask(0, 0, 5, 100), 3), 1);
     }
 
     private static void promise7FurthestAhead() {
-        DoorstepRides x = town(8, 0);
+        DoorstepRides x = Checks.town(8, 0);
         x.ask(0, 0, 5, 100);
         x.ask(0, 0, 5, 100);
         dueRoute(x, 0, 1, 0, 1, 0);
         Checks.due("no more drive", x.drive(0), 20);
         Checks.due("second pick", x.stopOf(0, 1, 2), 102);
         Checks.due("first drop", x.stopOf(0, 2, 2), 114);
-        DoorstepRides y = town(8, 0);
+        DoorstepRides y = Checks.town(8, 0);
         y.ask(0, 0, 2, 100);
         y.ask(0, 1, 2, 100);
         dueRoute(y, 0, 0, 1, 1, 0);
-        DoorstepRides z = town(8, 0);
+        DoorstepRides z = Checks.town(8, 0);
         z.ask(0, 0, 2, 100);
         z.ask(0, 0, 1, 100);
         dueRoute(z, 0, 1, 0, 1, 0);
     }
 
     private static void promise7ChairsInTurn() {
-        DoorstepRides x = town(8, 3);
+        DoorstepRides x = Checks.town(8, 3);
         x.ask(2, 0, 5, 100);
         x.ask(2, 0, 5, 100);
         dueRoute(x, 0, 1, 0, 0, 1);
-        DoorstepRides y = town(8, 3);
+        DoorstepRides y = Checks.town(8, 3);
         y.ask(2, 0, 5, 100);
         y.ask(0, 0, 5, 100);
         dueRoute(y, 0, 1, 0, 1, 0);
-        DoorstepRides z = town(8, 3);
+        DoorstepRides z = Checks.town(8, 3);
         z.ask(2, 0, 5, 100);
         z.pass(106);
         z.ask(2, 0, 5, 110);
@@ -207,19 +197,19 @@ public final class RequestsTest {
     }
 
     private static void promise7Ties() {
-        DoorstepRides x = town(8, 0);
+        DoorstepRides x = Checks.town(8, 0);
         Checks.due("no tie", x.requestOf(x.ask(2, 0, 5, 100), 1), DoorstepRides.NO_ROOM);
-        DoorstepRides y = town(8, 1);
+        DoorstepRides y = Checks.town(8, 1);
         y.ask(2, 0, 5, 100);
         Checks.due("one tie for two", y.requestOf(y.ask(2, 0, 5, 100), 2) != 100, true);
-        DoorstepRides z = town(8, 2);
+        DoorstepRides z = Checks.town(8, 2);
         z.ask(2, 0, 5, 100);
         Checks.due("two ties for two", z.requestOf(z.ask(2, 0, 5, 100), 2), 100);
         Checks.due("two ties for three", z.requestOf(z.ask(2, 0, 5, 100), 2) != 100, true);
     }
 
     private static void promise7SixteenStops() {
-        DoorstepRides x = town(8, 0);
+        DoorstepRides x = Checks.town(8, 0);
         for (int i = 0; i < 8; i++) {
             Checks.due("promised", x.requestOf(x.ask(0, 0, 1, 40 + 60 * i), 2), 40 + 60 * i);
         }
@@ -232,7 +222,7 @@ public final class RequestsTest {
     }
 
     private static void promise7SeventeenStops() {
-        DoorstepRides x = town(8, 0);
+        DoorstepRides x = Checks.town(8, 0);
         for (int i = 0; i < 8; i++) {
             x.ask(0, 0, 1, 40 + 60 * i);
         }
@@ -246,12 +236,12 @@ public final class RequestsTest {
 
     /** It leaves for the place 5 at 10, to be there at 20. */
     private static void promise7BehindTheLeftStop() {
-        DoorstepRides x = town(8, 0);
+        DoorstepRides x = Checks.town(8, 0);
         x.ask(0, 5, 11, 20);
         x.pass(9);
         Checks.due("ahead of it", x.requestOf(x.ask(0, 0, 1, 12), 2), 12);
         dueRoute(x, 0, 1, 1, 0, 0);
-        DoorstepRides y = town(8, 0);
+        DoorstepRides y = Checks.town(8, 0);
         y.ask(0, 5, 11, 20);
         y.pass(10);
         Checks.due("behind it", y.requestOf(y.ask(0, 0, 1, 12), 2), 22);
@@ -259,7 +249,7 @@ public final class RequestsTest {
     }
 
     private static void promise7Reasons() {
-        DoorstepRides x = town(1, 0);
+        DoorstepRides x = Checks.town(1, 0);
         x.busStop(0, true);
         for (int i = 0; i < 3; i++) {
             x.cancel(x.ask(0, 14, 21, 50));
@@ -283,7 +273,7 @@ public final class RequestsTest {
     }
 
     private static void promise7Suspended() {
-        DoorstepRides x = town(1, 0);
+        DoorstepRides x = Checks.town(1, 0);
         for (int i = 0; i < 12; i++) {
             Checks.due("in good time", x.cancel(x.ask(0, 0, 1, 60)), false);
         }
@@ -300,7 +290,7 @@ public final class RequestsTest {
     }
 
     private static void promise7NotQuiteSuspended() {
-        DoorstepRides x = town(1, 0);
+        DoorstepRides x = Checks.town(1, 0);
         for (int i = 0; i < 13; i++) {
             x.cancel(x.ask(0, 0, 1, 60));
         }
@@ -311,14 +301,14 @@ public final class RequestsTest {
         Checks.due("promised", x.requestOf(x.ask(0, 0, 1, 59), 0), DoorstepRides.PROMISED);
         x.cancel(16);
         Checks.due("4 of 17", x.riderOf(0, 2), 1);
-        DoorstepRides y = town(1, 0);
+        DoorstepRides y = Checks.town(1, 0);
         y.cancel(y.ask(0, 0, 1, 59));
         y.cancel(y.ask(0, 0, 1, 59));
         Checks.due("2 of 2 are too few", y.riderOf(0, 2), 0);
     }
 
     private static void promise7ThirtyDays() {
-        DoorstepRides x = town(1, 0);
+        DoorstepRides x = Checks.town(1, 0);
         for (int i = 0; i < 3; i++) {
             x.cancel(x.ask(0, 0, 1, 59));
         }
@@ -331,7 +321,7 @@ public final class RequestsTest {
     }
 
     private static void promise8() {
-        DoorstepRides x = town(8, 0);
+        DoorstepRides x = Checks.town(8, 0);
         x.ask(0, 0, 1, 100);
         x.ask(0, 0, 1, 99);
         x.pass(40);
@@ -351,7 +341,7 @@ public final class RequestsTest {
     }
 
     private static void promise8Wrong() {
-        DoorstepRides x = town(8, 0);
+        DoorstepRides x = Checks.town(8, 0);
         Checks.refused("none yet", Checks.INDEX, () -> x.cancel(0));
         x.ask(0, 5, 0, 100);
         x.ask(2, 5, 0, 100);
@@ -371,7 +361,7 @@ public final class RequestsTest {
     }
 
     private static void promise8LeavesOthers() {
-        DoorstepRides x = town(8, 0);
+        DoorstepRides x = Checks.town(8, 0);
         x.ask(0, 0, 5, 100);
         x.ask(0, 0, 5, 100);
         x.ask(0, 0, 1, 200);
@@ -381,7 +371,7 @@ public final class RequestsTest {
         Checks.due("left for another", x.vehicleOf(0, 5), 1);
         Checks.due("100 minutes ahead", x.cancel(2), false);
         dueRoute(x, 0, 0, 0);
-        DoorstepRides y = town(8, 0);
+        DoorstepRides y = Checks.town(8, 0);
         y.ask(0, 0, 5, 100);
         y.ask(0, 0, 5, 100);
         y.pass(100);
@@ -392,7 +382,7 @@ public final class RequestsTest {
     }
 
     private static void promise9() {
-        DoorstepRides x = town(8, 0);
+        DoorstepRides x = Checks.town(8, 0);
         x.ask(0, 5, 0, 100);
         x.ask(0, 5, 0, 100);
         x.absent(0);
@@ -410,13 +400,13 @@ public final class RequestsTest {
         Checks.due("its drop did not", x.requestOf(0, 6), DoorstepRides.NONE);
         dueRoute(x, 0, 1);
         Checks.due("one seat", x.vehicleOf(0, 3), 1);
-        DoorstepRides y = town(8, 0);
+        DoorstepRides y = Checks.town(8, 0);
         y.ask(0, 5, 0, 100);
         y.pass(101);
         y.absent(0);
         y.pass(1);
         Checks.due("told while it is there", y.requestOf(0, 0), DoorstepRides.MISSED);
-        DoorstepRides z = town(8, 0);
+        DoorstepRides z = Checks.town(8, 0);
         z.ask(0, 5, 0, 100);
         z.absent(0);
         Checks.due("cancelled in good time", z.cancel(0), false);
@@ -424,7 +414,7 @@ public final class RequestsTest {
     }
 
     private static void promise9Wrong() {
-        DoorstepRides x = town(8, 0);
+        DoorstepRides x = Checks.town(8, 0);
         Checks.refused("none yet", Checks.INDEX, () -> x.absent(0));
         x.ask(0, 0, 5, 100);
         x.ask(2, 5, 0, 100);
