@@ -239,12 +239,8 @@ public final class DoorstepRides {
     /** Tells of an open stop. */
     public int stopOf(int vehicle, int place, int what) throws IndexOutOfBoundsException, IllegalArgumentException {
         Vehicle asked = vehicleNumbered(vehicle);
-        demandIndex(place, asked.stops.size());
+        Stop told = openStop(asked, place);
         demand(what, 0, 3);
-        if (place < 0 || place >= asked.stops.size()) {
-            return NONE;
-        }
-        Stop told = asked.stops.get(place);
         if (what == 0) {
             return numberOf(told.request);
         }
@@ -322,12 +318,6 @@ public final class DoorstepRides {
         }
     }
 
-    private static void demandIndex(int number, int size) {
-        if (number < 0 || number >= size) {
-            throw new IndexOutOfBoundsException("no such number");
-        }
-    }
-
     private Rider riderNumbered(int number) {
         if (number < 0 || number >= riders.size()) {
             throw new IndexOutOfBoundsException("no such rider");
@@ -347,6 +337,13 @@ public final class DoorstepRides {
             throw new IndexOutOfBoundsException("no such request");
         }
         return requests.get(number);
+    }
+
+    private static Stop openStop(Vehicle asked, int place) {
+        if (place < 0 || place >= asked.stops.size()) {
+            throw new IndexOutOfBoundsException("no such stop");
+        }
+        return asked.stops.get(place);
     }
 
     // ---- places and bus stops
