@@ -7,27 +7,7 @@ public final class DayTest {
     }
 
     public static void main(String[] args) {
-        promise10();
-        promise10Wrong();
-        promise10Kinds();
-        promise10WaitsToLeave();
-        promise10LiftAtPick();
-        promise10LiftAtDrop();
-        promise10LiftMendedInTime();
-        promise11();
-        promise11Wrong();
-        promise11PassesTheRest();
-        promise11EndsAt600();
-        promise12();
-        promise12Left();
-        promise12Wrong();
-        promise13ToAnother();
-        promise13PicksInOrder();
-        promise13DropTooLate();
-        promise13ComesBack();
-        promise13NotWhatItLeftFor();
-        promise13Wrong();
-        Checks.close("DayTest");
+        Checks.runAll(DayTest.class);
     }
 
     private static void dueVehicle(String when, DoorstepRides x, int place, int free, int stops, int left) {

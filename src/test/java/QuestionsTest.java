@@ -6,32 +6,7 @@ public final class QuestionsTest {
     }
 
     public static void main(String[] args) {
-        promises14And15();
-        promise16();
-        promise17();
-        promise17LastThirtyDays();
-        promise18();
-        promise18Wrong();
-        promise18Denied();
-        promise18LateAndLong();
-        promise19();
-        promise19SeatsAndChairs();
-        promise19Right();
-        promise20();
-        promise20Plan();
-        promise21();
-        promise22();
-        promise23();
-        promise23Six();
-        promise23LeftFirst();
-        promise24No();
-        promise24NoAmongMany();
-        promise24Late();
-        promise24LastTwentyDays();
-        promise25();
-        promise26();
-        questionsChangeNothing();
-        Checks.close("QuestionsTest");
+        Checks.runAll(QuestionsTest.class);
     }
 
     private static void dueRequest(DoorstepRides x, int request, int... due) {

@@ -6,37 +6,7 @@ public final class RequestsTest {
     }
 
     public static void main(String[] args) {
-        promise7Wrong();
-        promise7Full();
-        promise7Tries();
-        promise7TriesOfTheDay();
-        promise7PickInTime();
-        promise7BackInTime();
-        promise7LeastGrowth();
-        promise7FurthestAhead();
-        promise7ChairsInTurn();
-        promise7Seats();
-        promise7Ties();
-        promise7SixteenStops();
-        promise7SeventeenStops();
-        promise7BehindTheLeftStop();
-        promise7Reasons();
-        promise7Suspended();
-        promise7NotQuiteSuspended();
-        promise7ThirtyDays();
-        promise8();
-        promise8Wrong();
-        promise8LeavesOthers();
-        promise9();
-        promise9Wrong();
-        Checks.close("RequestsTest");
-    }
-
-    private static void dueRoute(DoorstepRides x, int vehicle, int... requests) {
-        Checks.due("stops", x.vehicleOf(vehicle, 2), requests.length);
-        for (int i = 0; i < requests.length && i < x.vehicleOf(vehicle, 2); i++) {
-            Checks.due("request of the stop " + i, x.stopOf(vehicle, i, 0), requests[i]);
-        }
+        Checks.runAll(RequestsTest.class);
     }
 
     private static void promise7Wrong() {
@@ -74,7 +44,7 @@ public final class RequestsTest {
         Checks.due("m", x.requestOf(x.ask(0, 0, 5, 100), 2), 100);
         Checks.due("m and 10", x.requestOf(x.ask(0, 0, 5, 100), 2), 110);
         Checks.due("m less 20, for m less 10 and m and 20 are not possible", x.requestOf(x.ask(0, 0, 5, 100), 2), 80);
-        dueRoute(x, 0, 2, 2, 0, 0, 1, 1);
+        Checks.dueRoute(x, 0, 2, 2, 0, 0, 1, 1);
         Checks.due("begins", x.stopOf(0, 4, 2), 128);
         int last = 0;
         for (int i = 0; i < 5; i++) {
@@ -145,35 +115,35 @@ public final class RequestsTest {
         DoorstepRides x = Checks.town(8, 0);
         x.ask(0, 0, 5, 100);
         x.ask(0, 0, 5, 100);
-        dueRoute(x, 0, 1, 0, 1, 0);
+        Checks.dueRoute(x, 0, 1, 0, 1, 0);
         Checks.due("no more drive", x.drive(0), 20);
         Checks.due("second pick", x.stopOf(0, 1, 2), 102);
         Checks.due("first drop", x.stopOf(0, 2, 2), 114);
         DoorstepRides y = Checks.town(8, 0);
         y.ask(0, 0, 2, 100);
         y.ask(0, 1, 2, 100);
-        dueRoute(y, 0, 0, 1, 1, 0);
+        Checks.dueRoute(y, 0, 0, 1, 1, 0);
         DoorstepRides z = Checks.town(8, 0);
         z.ask(0, 0, 2, 100);
         z.ask(0, 0, 1, 100);
-        dueRoute(z, 0, 1, 0, 1, 0);
+        Checks.dueRoute(z, 0, 1, 0, 1, 0);
     }
 
     private static void promise7ChairsInTurn() {
         DoorstepRides x = Checks.town(8, 3);
         x.ask(2, 0, 5, 100);
         x.ask(2, 0, 5, 100);
-        dueRoute(x, 0, 1, 0, 0, 1);
+        Checks.dueRoute(x, 0, 1, 0, 0, 1);
         DoorstepRides y = Checks.town(8, 3);
         y.ask(2, 0, 5, 100);
         y.ask(0, 0, 5, 100);
-        dueRoute(y, 0, 1, 0, 1, 0);
+        Checks.dueRoute(y, 0, 1, 0, 1, 0);
         DoorstepRides z = Checks.town(8, 3);
         z.ask(2, 0, 5, 100);
         z.pass(106);
         z.ask(2, 0, 5, 110);
         Checks.due("left for the drop already", z.vehicleOf(0, 5), 1);
-        dueRoute(z, 0, 0, 1, 1);
+        Checks.dueRoute(z, 0, 0, 1, 1);
     }
 
     private static void promise7Seats() {
@@ -240,12 +210,12 @@ public final class RequestsTest {
         x.ask(0, 5, 11, 20);
         x.pass(9);
         Checks.due("ahead of it", x.requestOf(x.ask(0, 0, 1, 12), 2), 12);
-        dueRoute(x, 0, 1, 1, 0, 0);
+        Checks.dueRoute(x, 0, 1, 1, 0, 0);
         DoorstepRides y = Checks.town(8, 0);
         y.ask(0, 5, 11, 20);
         y.pass(10);
         Checks.due("behind it", y.requestOf(y.ask(0, 0, 1, 12), 2), 22);
-        dueRoute(y, 0, 0, 0, 1, 1);
+        Checks.dueRoute(y, 0, 0, 0, 1, 1);
     }
 
     private static void promise7Reasons() {
@@ -366,19 +336,19 @@ public final class RequestsTest {
         x.ask(0, 0, 5, 100);
         x.ask(0, 0, 1, 200);
         x.cancel(1);
-        dueRoute(x, 0, 0, 0, 2, 2);
+        Checks.dueRoute(x, 0, 0, 0, 2, 2);
         x.pass(100);
         Checks.due("left for another", x.vehicleOf(0, 5), 1);
         Checks.due("100 minutes ahead", x.cancel(2), false);
-        dueRoute(x, 0, 0, 0);
+        Checks.dueRoute(x, 0, 0, 0);
         DoorstepRides y = Checks.town(8, 0);
         y.ask(0, 0, 5, 100);
         y.ask(0, 0, 5, 100);
         y.pass(100);
-        dueRoute(y, 0, 1, 0, 1, 0);
+        Checks.dueRoute(y, 0, 1, 0, 1, 0);
         Checks.refused("left for the first stop", Checks.STATE, () -> y.cancel(1));
         Checks.due("not for the second", y.cancel(0), true);
-        dueRoute(y, 0, 1, 1);
+        Checks.dueRoute(y, 0, 1, 1);
     }
 
     private static void promise9() {
@@ -398,7 +368,7 @@ public final class RequestsTest {
         Checks.due("its pick began", x.requestOf(0, 4), 102);
         Checks.due("its pick ended", x.requestOf(0, 5), 104);
         Checks.due("its drop did not", x.requestOf(0, 6), DoorstepRides.NONE);
-        dueRoute(x, 0, 1);
+        Checks.dueRoute(x, 0, 1);
         Checks.due("one seat", x.vehicleOf(0, 3), 1);
         DoorstepRides y = Checks.town(8, 0);
         y.ask(0, 5, 0, 100);

@@ -4,18 +4,7 @@ public final class ToldTest {
     }
 
     public static void main(String[] args) {
-        promise1();
-        promise2();
-        promise2Full();
-        promise3();
-        promise4();
-        promise4Wrong();
-        promise5();
-        promise5Full();
-        promise5ToldLate();
-        promise6();
-        promise6Weight();
-        Checks.close("ToldTest");
+        Checks.runAll(ToldTest.class);
     }
 
     private static void promise1() {
